@@ -239,19 +239,13 @@ public final class PolesInALake {
         if (weight < 1 || weight > MOST_WEIGHT || !areYears(n)) {
             return OUTSIDE;
         }
-        int best = NONE;
-        int leastWork = 0;
+        // how a pole holds is the same for each wood, so the least wood that lasts is the least work
         for (int wood = 0; wood < WOODS; wood++) {
             if (ground.lasts(wood) > n) {
-                int choice = leastBuildOf(wood, cell, weight, n);
-                // only less work counts: of like ones the least wood is to stay
-                if (choice != NONE && (best == NONE || choice / 1000 < leastWork)) {
-                    best = choice;
-                    leastWork = choice / 1000;
-                }
+                return leastBuildOf(wood, cell, weight, n);
             }
         }
-        return best;
+        return NONE;
     }
 
     // ---- water, rings

@@ -11,6 +11,7 @@ public final class FindsSlotsTest {
         unfind();
         groups();
         groupsThatJoin();
+        rowsApart();
         laterEdges();
         laterOfSeveral();
         grew();
@@ -96,6 +97,14 @@ public final class FindsSlotsTest {
         Due.due("none", x.houses(), 0);
     }
 
+    private static void rowsApart() {
+        PolesInALake x = Due.lake("N6");
+        for (int cell : new int[] {0, 20, 40, 22, 2, 4, 24, 44, 42}) {
+            int f = x.find(cell, 0, 10);
+            Due.due("alone at " + cell, x.group(f), f);
+        }
+    }
+
     private static void laterEdges() {
         PolesInALake x = Due.lake("N6");
         x.find(0, 0, 10);
@@ -115,6 +124,11 @@ public final class FindsSlotsTest {
         besides(x, 3, 11, NONE);
         Due.due("no find", x.later(3), UNKNOWN);
         Due.due("find -1", x.later(-1), UNKNOWN);
+        PolesInALake y = Due.lake("N6");
+        y.find(2, 0, 12);
+        y.find(1, 0, 11);
+        y.find(0, 0, 10);
+        besides(y, 3, 14, 0);
         x.find(11, 0, 40);
         x.find(11, 0, 40);
         Due.due("two beside", x.later(3), 0);
@@ -222,7 +236,7 @@ public final class FindsSlotsTest {
         Due.due("keep", x.keep(1), 2);
         Due.due("the other was not", x.again(0), STATE);
         x.year();
-        x.pole(2, 2, 5, false);
+        x.pole(2, 2, 5, true);
         x.house(2, 2, 9);
         x.find(0, 0, 0);
         Due.due("keep", x.keep(0), 2);
@@ -239,6 +253,10 @@ public final class FindsSlotsTest {
         Due.due("again the other", x.again(0), 2);
         Due.due("poles", x.count(1), 3);
         Due.due("pole 0 fell", x.told(0, 6), 0);
+        int[] third = {2, 2, 5, 5, 1, 1, 1, 10};
+        for (int what = 0; what < 8; what++) {
+            Due.due("told 2 " + what, x.told(2, what), third[what]);
+        }
         Due.due("houses", x.count(3), 2);
         Due.due("cells are taken", x.house(2, 2, 1), STATE);
         Due.due("the year", x.count(4), 1);

@@ -108,6 +108,11 @@ public final class LakeTest {
         fault("N2D001D012D1", 12);
         fault("N3D001D012D0", 12);
         fault("N2D001D012D103D1", 16);
+        fault("N2D103D114D", 11);
+        fault("N2D103D114D1", 11);
+        fault("N2D103D114D001D0", 16);
+        fault("N2D011D0", 8);
+        fault("N2D011D00", 9);
         fault("N2D001D012D103D114D", 18);
         fault("N2D001D012D103D114M", 19);
         fault("N2R", 3);
@@ -120,6 +125,9 @@ public final class LakeTest {
         fault("N2R09R1", 7);
         fault("N2R09R11R25", NONE);
         fault("N2R09R11R25R", 11);
+        fault("N2R09R11R", 9);
+        fault("N2R09R25R", 9);
+        fault("N2R11R25R", 9);
         for (String letter : new String[] {"M", "C", "B", "I"}) {
             fault("N2" + letter, 3);
             fault("N2" + letter + "0", NONE);
@@ -217,6 +225,11 @@ public final class LakeTest {
         Due.due("cleared: slot 0", x.again(0), STATE);
         Due.due("cleared: slot 1", x.again(1), STATE);
         Due.due("cells are free", x.house(0, 11, 7), 0);
+        x.year();
+        Due.due("down", x.home(0, 3), 1);
+        x.lake();
+        x.house(0, 0, 5);
+        Due.due("a new house is not down", x.home(0, 3), 0);
         Due.due("no find", x.group(0), UNKNOWN);
         Due.due("water stays", x.calm(), 1);
         Due.due("rings stay", x.ring(7, 0), 3);

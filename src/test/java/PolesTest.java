@@ -101,7 +101,8 @@ public final class PolesTest {
         Due.due("beside it", x.house(3, 33, 1), 1);
         Due.due("above it", x.house(0, 2, 1), 2);
         Due.due("one cell", x.house(30, 30, 1), 3);
-        Due.due("houses", x.count(3), 4);
+        Due.due("above that", x.house(20, 20, 1), 4);
+        Due.due("houses", x.count(3), 5);
         x.year();
         Due.due("a house that is down", x.home(3, 3), 1);
         Due.due("has its cells still", x.house(30, 30, 1), STATE);

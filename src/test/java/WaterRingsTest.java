@@ -142,6 +142,14 @@ public final class WaterRingsTest {
         Due.due("one figure", x.match(1, 10, 20), OUTSIDE);
         Due.due("negative", x.match(9, -1, 20), OUTSIDE);
         Due.due("the most", x.match(1, 9, 0), 9);
+        int most = 1;
+        for (int n = 1; n <= 9; n++) {
+            most *= 10;
+            Due.due("n figures", x.match(n, most, 30), OUTSIDE);
+            Due.due("n figures", x.dated(n, most), OUTSIDE);
+            Due.due("n figures", x.sure(n, most), OUTSIDE);
+            Due.due("n nines", x.dated(n, most - 1), 9);
+        }
     }
 
     private static void dated() {
@@ -164,6 +172,8 @@ public final class WaterRingsTest {
         Due.due("nearly twice", x.sure(2, 57), 1);
         Due.due("the last year", x.dated(2, 58), 59);
         Due.due("it is sure by", x.sure(2, 58), 1);
+        Due.due("none is alike", x.dated(2, 59), 59);
+        Due.due("1 against 2", x.sure(2, 59), 1);
         Due.due("dated: n 0", x.dated(0, 0), OUTSIDE);
         Due.due("dated: n 10", x.dated(10, 0), OUTSIDE);
         Due.due("dated: rings", x.dated(2, 100), OUTSIDE);

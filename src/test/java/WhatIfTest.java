@@ -10,6 +10,8 @@ public final class WhatIfTest {
         ruleOne();
         ruleTwo();
         ruleThree();
+        mendedPole();
+        bestOfSeveral();
         fellBefore();
         housesInTurn();
         downNow();
@@ -140,6 +142,35 @@ public final class WhatIfTest {
         Due.due("rule 2", x.takes(2, 1), 1);
     }
 
+    private static void mendedPole() {
+        // a new pole is nine feet deep and has no collar: it holds 9 here
+        Due.due("share 9 is not too much", mendedUnder(18).takes(3, 1), 1);
+        Due.due("share 10 is", mendedUnder(19).takes(3, 1), 2);
+    }
+
+    private static PolesInALake mendedUnder(int weight) {
+        PolesInALake x = Due.lake("N2D009R11");
+        x.house(0, 0, weight);
+        x.pole(0, 0, 15, false);
+        x.pole(0, 1, 15, false);
+        x.year();
+        return x;
+    }
+
+    private static void bestOfSeveral() {
+        PolesInALake x = Due.lake("N2R09R11R22");
+        x.house(0, 0, 30);
+        x.pole(0, 1, 5, false);
+        x.pole(0, 1, 5, false);
+        x.pole(0, 2, 5, false);
+        Due.due("two fall", x.year(), 2);
+        Due.due("rule 0: down", x.mended(0, 0, 1), 1);
+        Due.due("rule 1 takes two", x.takes(1, 1), 2);
+        Due.due("rule 2 takes one", x.takes(2, 1), 1);
+        Due.due("rule 3 takes three", x.takes(3, 1), 3);
+        Due.due("so rule 2 is best", x.bestRule(0, 1), 2);
+    }
+
     private static void fellBefore() {
         PolesInALake x = Due.lake("N3R01R19");
         x.house(0, 1, 1);
@@ -257,6 +288,9 @@ public final class WhatIfTest {
         Due.due("wood 1", x.build(0, 1, 3), 3102);
         Due.due("wood 1 lasts 9", x.build(0, 1, 8), 3102);
         Due.due("but is rotten behind 9", x.build(0, 1, 9), NONE);
+        x = Due.lake("N2R03R12R29");
+        Due.due("wood 0 lasts", x.build(0, 1, 2), 1002);
+        Due.due("wood 1 does not either", x.build(0, 1, 3), 5202);
         x = Due.lake("N2R01R11");
         Due.due("wood 2", x.build(11, 1, 4), 5202);
         Due.due("none lasts a year but wood 2", x.build(11, 1, 1), 5202);
