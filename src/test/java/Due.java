@@ -1,14 +1,27 @@
 /** What the tests share: it counts the answers that are not due, and writes texts. */
 final class Due {
     private static int wrong = 0;
+    private static String sentence = "";
 
     private Due() {
+    }
+
+    /** The sentence of the document that the answers from here on hold to. */
+    static void holdsTo(String words) {
+        sentence = words;
     }
 
     static void due(String call, long got, long want) {
         if (got != want) {
             wrong++;
-            System.out.println(call + " answered " + got + ", due is " + want);
+            System.out.println(sentence + call + " answered " + got + ", due is " + want);
+        }
+    }
+
+    static void isTrue(String what, boolean holds) {
+        if (!holds) {
+            wrong++;
+            System.out.println(sentence + what + ": this does not hold");
         }
     }
 
@@ -22,10 +35,7 @@ final class Due {
     static PolesInALake lake(String text) {
         PolesInALake x = new PolesInALake();
         write(x, text);
-        if (x.lake() < 1) {
-            wrong++;
-            System.out.println(text + " is no lake");
-        }
+        isTrue(text + " is a lake", x.lake() >= 1);
         return x;
     }
 
