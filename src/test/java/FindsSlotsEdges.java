@@ -367,6 +367,18 @@ final class FindsSlotsEdges {
         Due.due("only one touches it", x.later(6), 3);
         x = found(2, 50, 3, 20, 3, 20, 3, 20);
         Due.due("found ahead of them", x.later(0), 1);
+        x = found(1, 20, 0, 20, 0, 20, 2, 50);
+        Due.due("touches the first one alone", x.later(3), 0);
+        x = found(4, 50, 1, 20, 1, 20, 2, 20, 3, 20);
+        Due.due("touches the last one alone", x.later(0), 1);
+        x.unfind();
+        Due.due("which is taken back", x.later(0), NONE);
+        x = Due.lake("N6");
+        for (int k = 0; k < 15; k++) {
+            x.find(0, 0, 20);
+        }
+        x.find(1, 0, 50);
+        Due.due("the last of 16", x.later(15), 0);
     }
 
     private static void laterNone() {

@@ -240,6 +240,8 @@ final class LakeEdges {
         fault("N2D001D012D101D11", 17);
         fault("N2D001D012D101D112D", 18);
         fault("N2R01R11R", 9);
+        fault("N2R01R21R", 9);
+        fault("N2R11R21R", 9);
         fault("N2R01R11R21R", 11);
         String last = RefusalsTest.fullText();
         fault(last.substring(0, 63) + "x", 63);
@@ -430,10 +432,12 @@ final class LakeEdges {
         }
         Due.due("put in the year 0", x.told(23, 5), 0);
         Due.due("all fall", x.year(), 24);
+        Due.due("so it is down", x.home(0, 3), 1);
         Due.due("the year is 1", x.count(4), 1);
         Due.due("lake again", x.lake(), 2);
         x.house(0, 0, 1);
         Due.due("what fell is gone too", x.takes(1, 1), 0);
+        Due.due("a house anew is not down", x.home(0, 3), 0);
     }
 
     private static void lakeRefused() {

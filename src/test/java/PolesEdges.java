@@ -562,16 +562,17 @@ final class PolesEdges {
 
     private static void houseState() {
         Doc.says("10", "STATE: the other CELL is above or left of the first one, or a CELL is in a HOUSE;");
-        for (int a = 0; a < 9; a++) {
-            for (int b = 0; b < 9; b++) {
-                PolesInALake x = Due.lake("N3");
-                boolean fits = b / 3 >= a / 3 && b % 3 >= a % 3;
-                int from = a / 3 * 10 + a % 3;
-                int to = b / 3 * 10 + b % 3;
+        for (int a = 0; a < 36; a++) {
+            for (int b = 0; b < 36; b++) {
+                PolesInALake x = Due.lake("N6");
+                boolean fits = b / 6 >= a / 6 && b % 6 >= a % 6;
+                int from = a / 6 * 10 + a % 6;
+                int to = b / 6 * 10 + b % 6;
                 Due.due(from + " to " + to, x.house(from, to, 1), fits ? 0 : STATE);
                 Due.due("houses", x.count(3), fits ? 1 : 0);
-                // whatever was refused took no cell
-                Due.due("then all cells", x.house(0, 22, 1), fits ? STATE : 0);
+                // what was refused took no cell
+                Due.due("at its first cell", x.house(from, from, 1), fits ? STATE : 0);
+                Due.due("at its other cell", x.house(to, to, 1), fits ? STATE : 1);
             }
         }
         PolesInALake x = Due.lake("N3");

@@ -248,8 +248,7 @@ final class WhatIfEdges {
     private static void ruleTwoLeastCell() {
         Doc.says("Terms", "RULE 2 puts one into the least CELL of the HOUSE,");
         // in the least cell nine feet hold nothing, and 15 feet 54; in the others nine feet hold 81
-        String clay = "D119D120D210D220";
-        PolesInALake x = Due.lake("N3M0C9" + clay);
+        PolesInALake x = Due.lake("N3M0C9B9D119D120D210D220");
         x.house(11, 22, 120);
         x.pole(22, 1, 13, false);
         Due.due("117 is less than 120", x.takes(2, 1), 1);
@@ -427,6 +426,12 @@ final class WhatIfEdges {
         }
         // nine feet hold 9, and are not lifted
         Due.due("ice, 8 years", x.build(0, 1, 8), 9018);
+        // a collar holds on, but not when the pole is out
+        x = Due.lake("N2M0C0B8I9R09");
+        for (int n = 1; n <= 8; n++) {
+            Due.due("ice and a collar, " + n + " years", x.build(0, 8, n), 1000 * (n + 4) + 2 * (n + 1) + 1);
+        }
+        Due.due("ice and a collar, 9", x.build(0, 9, 1), NONE);
     }
 
     private static void buildNotSinking() {
