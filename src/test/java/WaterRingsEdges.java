@@ -1,3 +1,4 @@
+import java.math.BigInteger;
 import java.util.function.IntBinaryOperator;
 
 /** The edges that part 4 of the terms and promises 19 to 26 name: water, rings. */
@@ -261,6 +262,23 @@ final class WaterRingsEdges {
         chance("0 of 8", x, 5, 1, 0, 1);
         chance("in two years 28 of 64", x, 4, 2, 7, 16);
         chance("in six years", x, 4, 6, 4096 - 729, 4096);
+        for (int rises = 1; rises <= 8; rises++) {
+            int[] feet = new int[rises];
+            for (int k = 0; k < rises; k++) {
+                feet[k] = 20 * k / rises;
+            }
+            leastTerms(risen(feet));
+        }
+    }
+
+    private static void leastTerms(PolesInALake x) {
+        for (int k = 0; k < 22 * 6; k++) {
+            BigInteger above = BigInteger.valueOf(x.wet(k / 6, 1 + k % 6, true));
+            BigInteger below = BigInteger.valueOf(x.wet(k / 6, 1 + k % 6, false));
+            Due.isTrue("below is 1 or more", below.signum() > 0);
+            Due.isTrue("above is between 0 and below", above.signum() >= 0 && above.compareTo(below) <= 0);
+            Due.due("in least terms", above.gcd(below).longValue(), 1);
+        }
     }
 
     private static void wetRefused() {
