@@ -812,7 +812,7 @@ public final class PolesInALake {
         }
 
         private boolean isPoleOf(int h, int p) {
-            return stands(p) && houseAt[cell[p]] == h;
+            return fellIn[p] == NONE && houseAt[cell[p]] == h;
         }
 
         int polesOf(int h) {
@@ -910,8 +910,8 @@ public final class PolesInALake {
                     if (rule == 1 || rule == 3) {
                         putForFallen(h);
                     }
-                    if (rule == 2 || rule == 3) {
-                        putForShare(h);
+                    if ((rule == 2 || rule == 3) && isTooMuchForSome(h)) {
+                        putPole(leastCell[h], 0, MENDED_DEPTH, false);
                     }
                 }
             }
@@ -928,12 +928,7 @@ public final class PolesInALake {
             }
         }
 
-        private void putForShare(int h) {
-            if (isTooMuchForSome(h)) {
-                putPole(leastCell[h], 0, MENDED_DEPTH, false);
-            }
-        }
-
+        /** Whether the share of a house is more than some pole of it holds. */
         private boolean isTooMuchForSome(int h) {
             int share = shareOf(h);
             for (int p = 0; p < poles; p++) {

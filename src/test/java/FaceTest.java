@@ -5,57 +5,104 @@ import java.lang.reflect.Method;
 import java.lang.reflect.Modifier;
 import java.nio.file.Files;
 import java.nio.file.Path;
-import java.util.Arrays;
-import java.util.TreeSet;
+import java.util.ArrayList;
+import java.util.LinkedHashMap;
+import java.util.List;
+import java.util.Map;
+import java.util.regex.Matcher;
 import java.util.regex.Pattern;
 
-/** The public face is the document's and no more; the source keeps to words the rules leave. */
+/**
+ * The public face is the document's, member by member and with its parameters' names, and no more:
+ * the document's own lines are compared with those of the source, and the class is looked at.
+ */
 public final class FaceTest {
-    private static final String[] CALLS = {
-        "int write(int,long)", "int wipe()", "int fault()", "int lake()", "int about(int)",
-        "int clay(int)", "int pole(int,int,int,boolean)", "int told(int,int)",
-        "int house(int,int,int)", "int home(int,int)", "int year()", "int down(int,int)",
-        "int off(int,int,int)", "int takes(int,int)", "int mended(int,int,int)",
-        "int bestRule(int,int)", "int build(int,int,int)", "int rise(int)", "int calm()",
-        "long wet(int,int,boolean)", "int dry(int,int)", "int ring(int,int)",
-        "int match(int,int,int)", "int dated(int,int)", "int sure(int,int)",
-        "int find(int,int,int)", "int unfind()", "int group(int)", "int houses()",
-        "int later(int)", "int grew(int)", "int dig()", "int keep(int)", "int again(int)",
-        "int count(int)"
-    };
-    private static final String[] RULED_OUT = {
-        "\\bthrow\\b", "\\btry\\b", "\\bcatch\\b", "\\bsynchronized\\b", "\\bassert\\b", "->", "::",
-        "\\bimport\\b", "\\bprotected\\b", "Exact\\b", "\\bSystem\\.(?!arraycopy)", "\\bstatic \\{"
-    };
+    private static final Path SOURCE = Path.of("src/main/java/PolesInALake.java");
+    private static final Path DOC = Path.of("../shared/DOC.md");
 
     public static void main(String[] args) throws IOException {
-        face();
+        String source = Files.readString(SOURCE);
+        String doc = Files.readString(DOC);
+        List<String> members = membersOf(doc.split("## The public face\n")[1].split("```")[1]);
+        Due.due("members of the document's face", members.size(), 38);
+        Due.isTrue("the source's face is the document's", membersOf(source).equals(members));
+        promises(doc, members);
+        groups(doc, source);
+        methods(members.size() - 3);
+        constructor();
         constants();
         inside();
-        source();
         Due.end();
     }
 
-    private static void face() {
+    /** The class line and the lines of public members one step in, without what opens a body. */
+    private static List<String> membersOf(String text) {
+        List<String> members = new ArrayList<>();
+        for (String line : text.split("\n")) {
+            if (line.matches("( {4})?public .*")) {
+                members.add(line.trim().replaceAll("( \\{|;)$", ""));
+            }
+        }
+        return members;
+    }
+
+    /** Each promise is headed by a member of the face; the class and its constants have none. */
+    private static void promises(String doc, List<String> members) {
+        Matcher head = Pattern.compile("## Promise (\\d+): [^\n]*\n\n`([^`]*)`").matcher(doc);
+        int found = 0;
+        while (head.find()) {
+            found++;
+            Due.due("the promises' numbers", Integer.parseInt(head.group(1)), found);
+            Due.isTrue("promise " + found + " is of " + head.group(2),
+                members.size() > found + 1 && members.get(found + 1).equals("public " + head.group(2)));
+        }
+        Due.due("promises", found, 36);
+    }
+
+    /** Ahead of each group of calls stands what the document says. */
+    private static void groups(String doc, String source) {
+        Map<String, List<String>> want = new LinkedHashMap<>();
+        Matcher says = Pattern.compile("Ahead of the calls ([^\n]*) the interface says: (---- [^\n]*)\\.").matcher(doc);
+        while (says.find()) {
+            List<String> calls = new ArrayList<>();
+            for (String call : says.group(1).split(", ")) {
+                calls.add(call.replace("`", ""));
+            }
+            want.put(says.group(2), calls);
+        }
+        Due.due("groups of calls", want.size(), 6);
+        Map<String, List<String>> have = new LinkedHashMap<>();
+        String group = "";
+        for (String line : source.split("\n")) {
+            Matcher call = Pattern.compile(" {4}public (?:int|long) (\\w+)\\(.*").matcher(line);
+            if (line.startsWith("    // ---- ")) {
+                group = line.substring(7);
+            } else if (call.matches()) {
+                have.computeIfAbsent(group, g -> new ArrayList<>()).add(call.group(1));
+            }
+        }
+        Due.isTrue("the groups of calls are the document's", have.equals(want));
+    }
+
+    private static void methods(int want) {
         Class<?> c = PolesInALake.class;
         Due.due("public and final", c.getModifiers(), Modifier.PUBLIC | Modifier.FINAL);
-        TreeSet<String> names = new TreeSet<>();
-        TreeSet<String> calls = new TreeSet<>();
+        int open = 0;
         for (Method m : c.getDeclaredMethods()) {
             if (Modifier.isPublic(m.getModifiers())) {
-                String all = m.toGenericString().replace("PolesInALake.", "").replace("public ", "");
-                calls.add(all);
-                names.add(m.getName());
+                open++;
+                Due.due("of an object: " + m, m.getModifiers(), Modifier.PUBLIC);
+                Due.due("throws nothing: " + m, m.getExceptionTypes().length, 0);
+            } else {
+                Due.isTrue("private: " + m, Modifier.isPrivate(m.getModifiers()));
             }
         }
-        Due.due("calls", calls.equals(new TreeSet<>(Arrays.asList(CALLS))) ? 1 : 0, 1);
-        for (Method m : c.getDeclaredMethods()) {
-            if (!Modifier.isPublic(m.getModifiers())) {
-                Due.due("private: " + m, Modifier.isPrivate(m.getModifiers()) ? 1 : 0, 1);
-                Due.due("a name of its own: " + m, names.contains(m.getName()) ? 1 : 0, 0);
-            }
-        }
-        Constructor<?>[] made = c.getDeclaredConstructors();
+        Due.due("public calls", open, want);
+        Due.isTrue("of no other class", c.getSuperclass() == Object.class && c.getInterfaces().length == 0);
+    }
+
+    private static void constructor() {
+        Constructor<?>[] made = PolesInALake.class.getDeclaredConstructors();
         Due.due("one constructor", made.length, 1);
         Due.due("it is public", made[0].getModifiers(), Modifier.PUBLIC);
         Due.due("it takes nothing", made[0].getParameterCount(), 0);
@@ -71,8 +118,10 @@ public final class FaceTest {
         for (Field f : PolesInALake.class.getDeclaredFields()) {
             if (Modifier.isPublic(f.getModifiers())) {
                 open++;
+                Due.isTrue("an int, static and final: " + f, f.getType() == int.class
+                    && f.getModifiers() == (Modifier.PUBLIC | Modifier.STATIC | Modifier.FINAL));
             } else {
-                Due.due("private: " + f, Modifier.isPrivate(f.getModifiers()) ? 1 : 0, 1);
+                Due.isTrue("private: " + f, Modifier.isPrivate(f.getModifiers()));
             }
         }
         Due.due("public fields", open, 5);
@@ -80,20 +129,9 @@ public final class FaceTest {
 
     private static void inside() {
         for (Class<?> c : PolesInALake.class.getDeclaredClasses()) {
-            Due.due("static: " + c, Modifier.isStatic(c.getModifiers()) ? 1 : 0, 1);
-            Due.due("not public: " + c, Modifier.isPublic(c.getModifiers()) ? 1 : 0, 0);
-            for (Field f : c.getDeclaredFields()) {
-                boolean fixed = !Modifier.isStatic(f.getModifiers()) || Modifier.isFinal(f.getModifiers());
-                Due.due("no static state: " + f, fixed ? 1 : 0, 1);
-            }
-        }
-    }
-
-    private static void source() throws IOException {
-        String text = Files.readString(Path.of("src/main/java/PolesInALake.java"));
-        String code = text.replaceAll("(?s)/\\*.*?\\*/", "").replaceAll("//[^\n]*", "");
-        for (String word : RULED_OUT) {
-            Due.due("ruled out: " + word, Pattern.compile(word).matcher(code).find() ? 1 : 0, 0);
+            Due.isTrue("static: " + c, Modifier.isStatic(c.getModifiers()));
+            Due.isTrue("not public: " + c, !Modifier.isPublic(c.getModifiers()));
+            Due.isTrue("not protected: " + c, !Modifier.isProtected(c.getModifiers()));
         }
     }
 }
