@@ -17,6 +17,7 @@ final class WhatIfEdges {
         ruleOnePole();
         ruleTwo();
         ruleTwoLeastCell();
+        ruleTwoNineFeet();
         ruleThreeAndZero();
         withoutRoom();
         takesInYears();
@@ -260,6 +261,21 @@ final class WhatIfEdges {
         x.pole(11, 1, 13, false);
         Due.due("117 is less than 120", x.takes(2, 1), 1);
         Due.due("81 is more than 60", x.takes(2, 3), 1);
+    }
+
+    /** Ice of 9 lifts what holds 8, each year anew; two poles have a share of 9. */
+    private static void ruleTwoNineFeet() {
+        Doc.says("Terms", "RULE 2 puts one");
+        PolesInALake x = Due.lake("N2C1D000I9R09R11");
+        x.house(0, 0, 18);
+        x.pole(0, 1, 9, false);
+        Due.due("ahead of year 0, and of year 1, the first one having rotted", x.takes(2, 2), 2);
+        Due.due("nine feet hold 9, eight would hold less", x.takes(2, 3), 2);
+        x = Due.lake("N2M0C1D001I9R09R11");
+        x.house(0, 0, 18);
+        x.pole(0, 1, 10, false);
+        Due.due("ahead of year 0 and of year 1", x.takes(2, 2), 2);
+        Due.due("nine feet hold 8, ten would hold more", x.takes(2, 3), 3);
     }
 
     private static void ruleThreeAndZero() {
